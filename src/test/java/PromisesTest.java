@@ -1,94 +1,6 @@
-import java.util.NoSuchElementException;
-import java.util.function.Supplier;
-
 /** At least one test for each promise of the document: ordinary inputs, edges and wrong inputs. */
-public final class PromisesTest {
-    private static final Class<?> INDEX = IndexOutOfBoundsException.class;
-    private static final Class<?> ARGUMENT = IllegalArgumentException.class;
-    private static final Class<?> STATE = IllegalStateException.class;
-    private static final Class<?> ARITHMETIC = ArithmeticException.class;
-    private static final Class<?> NO_ELEMENT = NoSuchElementException.class;
-    private static final int[] NO_SLOTS = {-1, 5, Integer.MIN_VALUE, Integer.MAX_VALUE};
-
-    private static int wrong = 0;
-    private static int promise = 0;
-
-    private static void due(String call, Object want, Supplier<Object> answer) {
-        Object got;
-        try {
-            got = answer.get();
-        } catch (RuntimeException thrown) {
-            got = isOwn(thrown) ? thrown.getClass() : "by itself " + thrown;
-        }
-        if (!String.valueOf(want).equals(String.valueOf(got))) {
-            wrong++;
-            System.out.println("promise " + promise + ": " + call + " answered " + got + ", due is " + want);
-        }
-    }
-
-    /** Whether a throw statement of the class threw it, and not the machine or the library. */
-    private static boolean isOwn(RuntimeException thrown) {
-        StackTraceElement[] trace = thrown.getStackTrace();
-        return trace.length > 0 && trace[0].getClassName().startsWith("SturmRoots")
-                && !"/ by zero".equals(thrown.getMessage());
-    }
-
-    /** A workbench with these coefficients, from the power 0 on, in slot 0. */
-    private static SturmRoots with(int... coefficients) {
-        SturmRoots x = new SturmRoots();
-        put(x, 0, coefficients);
-        return x;
-    }
-
-    private static void put(SturmRoots x, int slot, int... coefficients) {
-        for (int i = 0; i < 7; i++) {
-            x.set(slot, i, i < coefficients.length ? coefficients[i] : 0);
-        }
-    }
-
-    private static int clamp(int value) {
-        return Math.max(-99, Math.min(99, value));
-    }
-
-    /** Puts a polynomial with coefficients of up to 9999 into the slot 0, 1 or 2; clears 3 and 4. */
-    private static void putGreat(SturmRoots x, int slot, int... coefficients) {
-        put(x, 3, 99);
-        for (int i = 0; i < 7; i++) {
-            x.set(4, i, i < coefficients.length ? clamp(coefficients[i] / 99) : 0);
-        }
-        x.multiply(3, 4, slot);
-        // 9999 is 99 * 99 + 99 + 99, so what is missing is added in two steps.
-        for (int step = 0; step < 2; step++) {
-            for (int i = 0; i < 7; i++) {
-                int want = i < coefficients.length ? coefficients[i] : 0;
-                x.set(4, i, clamp(want - x.coefficient(slot, i)));
-            }
-            x.add(slot, 4, slot);
-        }
-        put(x, 3);
-        put(x, 4);
-    }
-
-    private static String text(SturmRoots x, int slot) {
-        StringBuilder result = new StringBuilder();
-        for (int i = 0; i <= 6; i++) {
-            result.append(i == 0 ? "" : " ").append(x.coefficient(slot, i));
-        }
-        return result.toString();
-    }
-
-    private static String part(SturmRoots x, int index) {
-        return x.interval(index, 'd') + ":" + x.interval(index, 'm') + ":" + x.interval(index, 'n')
-                + "=" + x.rootsIn(index);
-    }
-
-    private static String parts(SturmRoots x) {
-        StringBuilder result = new StringBuilder();
-        for (int i = 0; i < x.intervals(); i++) {
-            result.append(i == 0 ? "" : " ").append(part(x, i));
-        }
-        return result.toString();
-    }
+public final class PromisesTest extends TestBase {
+    private static final int[] NO_SLOTS = {-1, 5, LEAST, GREATEST};
 
     private static long sum(int... values) {
         long c = 7;
@@ -126,11 +38,11 @@ public final class PromisesTest {
             due("set(" + bad + ", 0, 1)", INDEX, () -> x.set(bad, 0, 1));
             due("set(" + bad + ", 0, 100)", INDEX, () -> x.set(bad, 0, 100));
         }
-        for (int bad : new int[] {-1, 7, Integer.MIN_VALUE, Integer.MAX_VALUE}) {
+        for (int bad : new int[] {-1, 7, LEAST, GREATEST}) {
             due("set(0, " + bad + ", 1)", INDEX, () -> x.set(0, bad, 1));
             due("set(0, " + bad + ", 100)", INDEX, () -> x.set(0, bad, 100));
         }
-        for (int bad : new int[] {-100, 100, Integer.MIN_VALUE, Integer.MAX_VALUE}) {
+        for (int bad : new int[] {-100, 100, LEAST, GREATEST}) {
             due("set(0, 0, " + bad + ")", ARGUMENT, () -> x.set(0, 0, bad));
         }
         due("what rejected calls left", sum(0, 0, 0, 0, 0, 0, 0, 0, 0, 0, 0, 0, 0, 0, 0, 0, 0, 0, 0, 0, 0,
@@ -144,7 +56,7 @@ public final class PromisesTest {
         for (int bad : NO_SLOTS) {
             due("coefficient(" + bad + ", 0)", INDEX, () -> x.coefficient(bad, 0));
         }
-        for (int bad : new int[] {-1, 7, Integer.MIN_VALUE, Integer.MAX_VALUE}) {
+        for (int bad : new int[] {-1, 7, LEAST, GREATEST}) {
             due("coefficient(0, " + bad + ")", INDEX, () -> x.coefficient(0, bad));
         }
     }
@@ -269,7 +181,7 @@ public final class PromisesTest {
         due("a result too great", STATE, () -> x.shift(0, 9, 1));
         due("a result too small", STATE, () -> x.shift(0, -9, 0));
         due("what it left", "0 0 0 0 0 0 99", () -> text(x, 0));
-        for (int bad : new int[] {-10, 10, Integer.MIN_VALUE, Integer.MAX_VALUE}) {
+        for (int bad : new int[] {-10, 10, LEAST, GREATEST}) {
             due("by " + bad, ARGUMENT, () -> x.shift(0, bad, 0));
             due("by " + bad + " to 5", INDEX, () -> x.shift(0, bad, 5));
         }
@@ -308,7 +220,7 @@ public final class PromisesTest {
         put(x, 0, -99, 0, 0, 0, 0, 0, 1);
         due("a result too small", STATE, () -> x.scale(0, 9, 0));
         due("what it left", "-99 0 0 0 0 0 1", () -> text(x, 0));
-        for (int bad : new int[] {1, 0, -2, 10, Integer.MIN_VALUE, Integer.MAX_VALUE}) {
+        for (int bad : new int[] {1, 0, -2, 10, LEAST, GREATEST}) {
             due("by " + bad, ARGUMENT, () -> x.scale(0, bad, 0));
             due("by " + bad + " to 5", INDEX, () -> x.scale(0, bad, 5));
         }
@@ -434,10 +346,10 @@ public final class PromisesTest {
         due("of a constant", -1L, () -> with(-7).sturmCoefficient(0, 0, 0));
         due("index 5 of 5", NO_ELEMENT, () -> x.sturmCoefficient(0, 5, 0));
         due("index -1", NO_ELEMENT, () -> x.sturmCoefficient(0, -1, 0));
-        due("the greatest index", NO_ELEMENT, () -> x.sturmCoefficient(0, Integer.MAX_VALUE, 0));
+        due("the greatest index", NO_ELEMENT, () -> x.sturmCoefficient(0, GREATEST, 0));
         due("of zero", ARITHMETIC, () -> x.sturmCoefficient(1, 0, 0));
         due("of zero, without such an element", ARITHMETIC, () -> x.sturmCoefficient(1, -1, 0));
-        for (int bad : new int[] {-1, 7, Integer.MIN_VALUE, Integer.MAX_VALUE}) {
+        for (int bad : new int[] {-1, 7, LEAST, GREATEST}) {
             due("power " + bad, INDEX, () -> x.sturmCoefficient(0, 0, bad));
             due("power " + bad + " of zero", INDEX, () -> x.sturmCoefficient(1, -1, bad));
         }
@@ -491,11 +403,11 @@ public final class PromisesTest {
     }
 
     private static void badPoints(String name, SturmRoots x, AtPoint method) {
-        for (int bad : new int[] {-1000001, 1000001, Integer.MIN_VALUE, Integer.MAX_VALUE}) {
+        for (int bad : new int[] {-1000001, 1000001, LEAST, GREATEST}) {
             due(name + " with n = " + bad, ARGUMENT, () -> method.call(0, bad, 0));
             due(name + " of zero with n = " + bad, ARGUMENT, () -> method.call(1, bad, 0));
         }
-        for (int bad : new int[] {-1, 13, 32, Integer.MIN_VALUE, Integer.MAX_VALUE}) {
+        for (int bad : new int[] {-1, 13, 32, LEAST, GREATEST}) {
             due(name + " with k = " + bad, ARGUMENT, () -> method.call(0, 0, bad));
             due(name + " of zero with k = " + bad, ARGUMENT, () -> method.call(1, 0, bad));
         }
@@ -527,11 +439,11 @@ public final class PromisesTest {
     }
 
     private static void badCounts(String name, Count method) {
-        for (int bad : new int[] {-1000001, 1000001, Integer.MIN_VALUE, Integer.MAX_VALUE}) {
+        for (int bad : new int[] {-1000001, 1000001, LEAST, GREATEST}) {
             due(name + " with n = " + bad, ARGUMENT, () -> method.call(0, bad, 0, 1000000, 0));
             due(name + " with m = " + bad, ARGUMENT, () -> method.call(0, -1000000, 0, bad, 0));
         }
-        for (int bad : new int[] {-1, 13, Integer.MIN_VALUE, Integer.MAX_VALUE}) {
+        for (int bad : new int[] {-1, 13, LEAST, GREATEST}) {
             due(name + " with k = " + bad, ARGUMENT, () -> method.call(0, -9, bad, 9, 0));
             due(name + " with l = " + bad, ARGUMENT, () -> method.call(0, -9, 0, 9, bad));
         }
@@ -656,7 +568,7 @@ public final class PromisesTest {
     }
 
     private static void badIndices(String name, SturmRoots x, java.util.function.IntFunction<Object> method) {
-        for (int bad : new int[] {-1, x.intervals(), Integer.MIN_VALUE, Integer.MAX_VALUE}) {
+        for (int bad : new int[] {-1, x.intervals(), LEAST, GREATEST}) {
             due(name + " of interval " + bad, INDEX, () -> method.apply(bad));
         }
         due(name + " without an isolation", INDEX, () -> method.apply(x.intervals()));
@@ -752,7 +664,7 @@ public final class PromisesTest {
         due("refine(0, 6)", 7, () -> x.refine(0, 6));
         due("around minus the root of 2", "7:-184:-176=1", () -> part(x, 0));
         refineToPoint();
-        for (int bad : new int[] {0, 7, -1, Integer.MIN_VALUE, Integer.MAX_VALUE}) {
+        for (int bad : new int[] {0, 7, -1, LEAST, GREATEST}) {
             due("times " + bad, ARGUMENT, () -> x.refine(1, bad));
             due("times " + bad + " without an interval", INDEX, () -> x.refine(2, bad));
         }
@@ -885,13 +797,10 @@ public final class PromisesTest {
             PromisesTest::promise25, PromisesTest::promise26, PromisesTest::promise27, PromisesTest::promise28,
             PromisesTest::promise29, PromisesTest::promise30, PromisesTest::promise31, PromisesTest::promise32,
         };
-        for (Runnable test : promises) {
-            promise++;
-            test.run();
+        for (int i = 0; i < promises.length; i++) {
+            begin("promise " + (i + 1));
+            promises[i].run();
         }
-        System.out.println(wrong == 0 ? "all answers are as due" : wrong + " answers are not as due");
-        if (wrong != 0) {
-            System.exit(1);
-        }
+        finish();
     }
 }
