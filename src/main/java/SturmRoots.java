@@ -634,7 +634,7 @@ public final class SturmRoots {
             if (size == 0 || length < size) {
                 return;
             }
-            int factor = BASE / (divisor.limbs[size - 1] + 1);
+            int factor = BASE / Math.max(1, divisor.limbs[size - 1] + 1);
             scaled.become(divisor);
             scaled.magnify(factor);
             magnify(factor);

@@ -1,5 +1,7 @@
 import java.math.BigInteger;
 import java.util.Arrays;
+import java.util.Set;
+import java.util.function.Supplier;
 
 /**
  * The edges that the document names, and what is answered there: the limits of coefficients and
@@ -303,6 +305,29 @@ public final class EdgesTest extends TestBase {
         SturmRoots y = with(5);
         due("the element 1 of a constant", NO_ELEMENT, () -> y.sturmDegree(0, 1));
         due("the power 6 of a constant", 0L, () -> y.sturmCoefficient(0, 0, 6));
+    }
+
+    /**
+     * A coefficient of an element is one of x to the power 0 to 6: above the degree it is 0, and so it
+     * is right after a sequence that had others there.
+     */
+    private static void aboveTheDegree() {
+        int[][] polynomials = {{-7}, {4, -6}, {-2, 0, 1}, {2, -3, 0, 1}, {6, 0, -4, 0, 2}, {1, 1, 0, 0, 0, 1},
+            {1, 1, 0, 0, 0, 0, 1}, {0, 0, 0, 0, 0, 0, 1}};
+        for (int[] coefficients : polynomials) {
+            SturmRoots x = withGreat(9999, -9973, 9967, 9949, -9941, 9931, 9929);
+            put(x, 1, coefficients);
+            for (int index = 0; index < x.sturmLength(1); index++) {
+                int i = index;
+                for (int power = 6; power > x.sturmDegree(1, i); power--) {
+                    int p = power;
+                    x.sturmLength(0);
+                    due("the power " + p + " of the element " + i + " of " + text(coefficients), 0L,
+                            () -> x.sturmCoefficient(1, i, p));
+                }
+                due("and the one of its degree", true, () -> x.sturmCoefficient(1, i, x.sturmDegree(1, i)) != 0);
+            }
+        }
     }
 
     /** A coefficient of the element 5, written out, of which the lowest 64 bits are due. */
@@ -745,6 +770,36 @@ public final class EdgesTest extends TestBase {
         due("call 512 of isolations", 2, () -> z.bisect(0));
     }
 
+    /** What later calls answer is free; but none may throw what the machine throws, or fail to end. */
+    private static void beyond512() {
+        SturmRoots x = withGreat(9999, -9973, 9967, 9949, -9941, 9931, 9929);
+        x.isolate(0);
+        for (int level = 0; level < 12; level++) {
+            for (int i = x.intervals() - 1; i >= 0; i--) {
+                int index = i;
+                late(() -> x.bisect(index));
+            }
+        }
+        for (int index : new int[] {0, 1, 2047, 4095, 4096, LEAST, GREATEST}) {
+            late(() -> x.bisect(index));
+            late(() -> x.refine(index, 1));
+            late(() -> x.multiplicity(index));
+            late(() -> x.rootsIn(index));
+            late(() -> x.interval(index, 'n'));
+        }
+        late(() -> x.checksum());
+        late(() -> x.removeEmpty());
+        late(() -> x.isTrue(0));
+        late(() -> x.isolate(0));
+    }
+
+    private static void late(Supplier<Object> call) {
+        Object got = outcome(call);
+        boolean isOwn = got instanceof Number || got instanceof Boolean
+                || Set.of(INDEX, ARGUMENT, STATE, ARITHMETIC, NO_ELEMENT).contains(got);
+        due("a call after the 512th with " + got, true, () -> isOwn);
+    }
+
     /** No object tells of another one. */
     private static void twoObjects() {
         SturmRoots x = with(-2, 0, 1);
@@ -776,6 +831,7 @@ public final class EdgesTest extends TestBase {
         run("square-free parts", EdgesTest::squareFreeParts);
         run("results in the slots that are read", EdgesTest::sameSlots);
         run("sequences", EdgesTest::sequences);
+        run("powers above the degree", EdgesTest::aboveTheDegree);
         run("coefficients that wrap around", EdgesTest::coefficientsThatWrapAround);
         run("sign changes", EdgesTest::changes);
         run("signs", EdgesTest::signs);
@@ -792,6 +848,7 @@ public final class EdgesTest extends TestBase {
         run("the theorem", EdgesTest::theorem);
         run("checksums", EdgesTest::checksums);
         run("512 calls", EdgesTest::call512);
+        run("calls after the 512th", EdgesTest::beyond512);
         run("two objects", EdgesTest::twoObjects);
         finish();
     }

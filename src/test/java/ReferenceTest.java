@@ -712,8 +712,11 @@ public final class ReferenceTest {
         compare("plant", () -> x.isolate(0), () -> y.isolate(0));
     }
 
-    /** Puts coefficients of up to four digits into all slots, so that sequences have great numbers. */
-    private static void plantGreat(SturmRoots x, Model y) {
+    /**
+     * Puts coefficients of up to four digits into three slots, so that sequences have great numbers; only
+     * into each second or third power if the step says so: then great numbers stand beside zeros.
+     */
+    private static void plantGreat(SturmRoots x, Model y, int step) {
         for (int i = 0; i < 7; i++) {
             int power = i;
             compare("great", () -> x.set(3, power, 0), () -> y.set(3, power, 0));
@@ -724,8 +727,9 @@ public final class ReferenceTest {
             compare("great", () -> x.set(3, 0, 99), () -> y.set(3, 0, 99));
             for (int i = 0; i < 7; i++) {
                 int power = i;
-                int high = next(8) == 0 ? 0 : between(-spread * 11, spread * 11) % 100;
-                int low = between(-99, 99);
+                boolean isZero = power % step != 0;
+                int high = isZero || next(8) == 0 ? 0 : between(-spread * 11, spread * 11) % 100;
+                int low = isZero ? 0 : between(-99, 99);
                 compare("great", () -> x.set(to, power, high), () -> y.set(to, power, high));
                 compare("great", () -> x.set(4, power, low), () -> y.set(4, power, low));
             }
@@ -749,7 +753,9 @@ public final class ReferenceTest {
         if (kind == 1) {
             plantRoots(x, y);
         } else if (kind == 2) {
-            plantGreat(x, y);
+            plantGreat(x, y, 1);
+        } else if (kind == 3) {
+            plantGreat(x, y, between(2, 3));
         }
         for (int i = 0; i < calls && wrong < 20; i++) {
             int group = next(10);
@@ -768,9 +774,9 @@ public final class ReferenceTest {
     }
 
     public static void main(String[] args) {
-        int runs = args.length > 0 ? Integer.parseInt(args[0]) : 150;
+        int runs = args.length > 0 ? Integer.parseInt(args[0]) : 200;
         for (int i = 0; i < runs && wrong < 20; i++) {
-            run(i % 3, 200);
+            run(i % 4, 200);
         }
         System.out.println(wrong == 0 ? "all answers are as due" : wrong + " answers are not as due");
         if (wrong != 0) {

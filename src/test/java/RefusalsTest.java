@@ -1,4 +1,3 @@
-import java.util.Arrays;
 import java.util.function.Supplier;
 
 /**
@@ -72,66 +71,7 @@ public final class RefusalsTest extends TestBase {
         return withGreat(5001, 4999, -5001, -9999, -4999, 4998, 5001);
     }
 
-    // ---- calls by their names
-
-    private static Object call(SturmRoots x, String name, int... a) {
-        switch (name) {
-            case "set": return x.set(a[0], a[1], a[2]);
-            case "coefficient": return x.coefficient(a[0], a[1]);
-            case "degree": return x.degree(a[0]);
-            case "copy": return x.copy(a[0], a[1]);
-            case "add": return x.add(a[0], a[1], a[2]);
-            case "multiply": return x.multiply(a[0], a[1], a[2]);
-            case "derivative": return x.derivative(a[0], a[1]);
-            case "shift": return x.shift(a[0], a[1], a[2]);
-            case "reflect": return x.reflect(a[0], a[1]);
-            case "scale": return x.scale(a[0], a[1], a[2]);
-            case "gcd": return x.gcd(a[0], a[1], a[2]);
-            case "squareFreePart": return x.squareFreePart(a[0], a[1]);
-            case "sturmLength": return x.sturmLength(a[0]);
-            case "sturmCoefficient": return x.sturmCoefficient(a[0], a[1], a[2]);
-            case "sturmDegree": return x.sturmDegree(a[0], a[1]);
-            case "signChanges": return x.signChanges(a[0], a[1], a[2]);
-            case "sign": return x.sign(a[0], a[1], a[2]);
-            case "countDistinct": return x.countDistinct(a[0], a[1], a[2], a[3], a[4]);
-            case "countAll": return x.countAll(a[0], a[1], a[2], a[3], a[4]);
-            case "distinctRoots": return x.distinctRoots(a[0]);
-            case "coefficientSignChanges": return x.coefficientSignChanges(a[0]);
-            case "isolate": return x.isolate(a[0]);
-            case "rootsIn": return x.rootsIn(a[0]);
-            case "interval": return x.interval(a[0], (char) a[1]);
-            case "bisect": return x.bisect(a[0]);
-            case "refine": return x.refine(a[0], a[1]);
-            case "multiplicity": return x.multiplicity(a[0]);
-            case "isTrue": return x.isTrue(a[0]);
-            default: throw new IllegalStateException("no such call: " + name);
-        }
-    }
-
-    private static String written(String name, int... arguments) {
-        return name + Arrays.toString(arguments);
-    }
-
-    /** All that the calls of the face tell of a workbench without changing it. */
-    private static String state(SturmRoots x) {
-        StringBuilder result = new StringBuilder();
-        for (int slot = 0; slot < 5; slot++) {
-            result.append(text(x, slot)).append(" (").append(x.degree(slot)).append("), ");
-        }
-        return result.append(parts(x)).append(", ").append(x.checksum()).toString();
-    }
-
-    /** What comes of later calls, which shows the polynomial that the isolation keeps. */
-    private static String aftermath(SturmRoots x) {
-        StringBuilder result = new StringBuilder();
-        for (int i = x.intervals() - 1; i >= 0; i--) {
-            int index = i;
-            result.append(outcome(() -> x.multiplicity(index))).append(' ');
-            result.append(outcome(() -> x.refine(index, 4))).append(' ');
-            result.append(outcome(() -> x.bisect(index))).append(' ');
-        }
-        return result.append(x.removeEmpty()).append(' ').append(state(x)).toString();
-    }
+    // ---- calls that are taken or refused
 
     private static void taken(String name, int... arguments) {
         SturmRoots x = maker.get();

@@ -1,3 +1,4 @@
+import java.util.Arrays;
 import java.util.NoSuchElementException;
 import java.util.function.Supplier;
 
@@ -112,5 +113,78 @@ abstract class TestBase {
             result.append(i == 0 ? "" : " ").append(part(x, i));
         }
         return result.toString();
+    }
+
+    // ---- calls by their names
+
+    static Object call(SturmRoots x, String name, int... a) {
+        switch (name) {
+            case "set": return x.set(a[0], a[1], a[2]);
+            case "coefficient": return x.coefficient(a[0], a[1]);
+            case "degree": return x.degree(a[0]);
+            case "copy": return x.copy(a[0], a[1]);
+            case "add": return x.add(a[0], a[1], a[2]);
+            case "multiply": return x.multiply(a[0], a[1], a[2]);
+            case "derivative": return x.derivative(a[0], a[1]);
+            case "shift": return x.shift(a[0], a[1], a[2]);
+            case "reflect": return x.reflect(a[0], a[1]);
+            case "scale": return x.scale(a[0], a[1], a[2]);
+            case "gcd": return x.gcd(a[0], a[1], a[2]);
+            case "squareFreePart": return x.squareFreePart(a[0], a[1]);
+            case "sturmLength": return x.sturmLength(a[0]);
+            case "sturmCoefficient": return x.sturmCoefficient(a[0], a[1], a[2]);
+            case "sturmDegree": return x.sturmDegree(a[0], a[1]);
+            case "signChanges": return x.signChanges(a[0], a[1], a[2]);
+            case "sign": return x.sign(a[0], a[1], a[2]);
+            case "countDistinct": return x.countDistinct(a[0], a[1], a[2], a[3], a[4]);
+            case "countAll": return x.countAll(a[0], a[1], a[2], a[3], a[4]);
+            case "distinctRoots": return x.distinctRoots(a[0]);
+            case "coefficientSignChanges": return x.coefficientSignChanges(a[0]);
+            case "isolate": return x.isolate(a[0]);
+            case "intervals": return x.intervals();
+            case "rootsIn": return x.rootsIn(a[0]);
+            case "interval": return x.interval(a[0], (char) a[1]);
+            case "bisect": return x.bisect(a[0]);
+            case "refine": return x.refine(a[0], a[1]);
+            case "removeEmpty": return x.removeEmpty();
+            case "multiplicity": return x.multiplicity(a[0]);
+            case "isTrue": return x.isTrue(a[0]);
+            case "checksum": return x.checksum();
+            default: throw new IllegalStateException("no such call: " + name);
+        }
+    }
+
+    /** A row is the name of a call and its arguments. */
+    static int[] argumentsOf(Object[] row) {
+        int[] result = new int[row.length - 1];
+        for (int i = 0; i < result.length; i++) {
+            result[i] = (int) row[i + 1];
+        }
+        return result;
+    }
+
+    static String written(String name, int... arguments) {
+        return name + Arrays.toString(arguments);
+    }
+
+    /** All that the calls of the face tell of a workbench without changing it. */
+    static String state(SturmRoots x) {
+        StringBuilder result = new StringBuilder();
+        for (int slot = 0; slot < 5; slot++) {
+            result.append(text(x, slot)).append(" (").append(x.degree(slot)).append("), ");
+        }
+        return result.append(parts(x)).append(", ").append(x.checksum()).toString();
+    }
+
+    /** What comes of later calls, which shows the polynomial that the isolation keeps. */
+    static String aftermath(SturmRoots x) {
+        StringBuilder result = new StringBuilder();
+        for (int i = x.intervals() - 1; i >= 0; i--) {
+            int index = i;
+            result.append(outcome(() -> x.multiplicity(index))).append(' ');
+            result.append(outcome(() -> x.refine(index, 4))).append(' ');
+            result.append(outcome(() -> x.bisect(index))).append(' ');
+        }
+        return result.append(x.removeEmpty()).append(' ').append(state(x)).toString();
     }
 }
